@@ -220,6 +220,9 @@ public final class DaysTest {
         Check.due("round 1: 15 more", y.play(), 2);
         y.pass(1, 0, 0);
         Check.due("round 2: 30 more", y.play(), 3);
+        Panyard six = band();
+        rivals(six, 6);
+        Check.due("rank 7", six.play(), 7);
         Panyard z = band();
         z.rival(130);
         z.lean(0, 7);

@@ -22,6 +22,8 @@ public final class DigestTest {
         Check.due("digest of a cracked pan", x.digest(), told(x));
         Check.due("the answers differ", x.digest() == new Panyard().digest(), false);
         eachCounts();
+        twentyMinutes(5, 19);
+        twentyMinutes(7, 21);
         Check.finish();
     }
 
@@ -47,8 +49,8 @@ public final class DigestTest {
 
     /** Whatever can be asked is in it, so that a change of it shows. */
     private static void eachCounts() {
-        Panyard x = new Panyard();
-        fill(x = prepared(x));
+        Panyard x = prepared();
+        fill(x);
         long last = x.digest();
         x.sponsor(1);
         last = differs("money", x, last);
@@ -62,7 +64,23 @@ public final class DigestTest {
         differs("a change with the same words", x, last);
     }
 
-    private static Panyard prepared(Panyard x) {
+    /** The lesson in it is of 20 minutes, not of some more or less. */
+    private static void twentyMinutes(int hard, int others) {
+        Panyard x = new Panyard();
+        x.pan(3);
+        x.tuner(0, 120);
+        x.player(3, 1, 8);
+        x.give(0, 0);
+        x.phrase(3, hard, 1);
+        x.phrase(3, hard, 1);
+        x.put(1);
+        x.put(0);
+        Check.due("20 and " + others + " differ", x.bestTeach(0, 20) == x.bestTeach(0, others), false);
+        Check.due("digest with a lesson of 20", x.digest(), told(x));
+    }
+
+    private static Panyard prepared() {
+        Panyard x = new Panyard();
         x.pan(3);
         x.pan(1);
         x.player(3, 9, 2);

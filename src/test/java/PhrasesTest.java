@@ -278,6 +278,24 @@ public final class PhrasesTest {
         x.teach(0, 0, 60);
         Check.due("fresh the next day", x.teach(0, 0, 30) > 0, true);
         Check.due("minutes ever", x.ofPlayer(0, 6), 150);
+        teachMinutesOfEachSection();
+    }
+
+    private static void teachMinutesOfEachSection() {
+        Panyard x = new Panyard();
+        for (int section = 0; section < 4; section++) {
+            x.phrase(section, 9, 1);
+            x.player(section, 1, 1);
+        }
+        for (int day = 0; day < 3; day++) {
+            for (int section = 0; section < 4; section++) {
+                int own = section;
+                x.teach(own, own, 45);
+                Check.due("90 of section " + own + " on day " + day, x.teach(own, own, 45) > 0, true);
+                Check.refused("91 of section " + own, x, Check.STATE, () -> x.teach(own, own, 1));
+            }
+            x.pass(1, 0, 0);
+        }
     }
 
     private static void teachRefusals() {
